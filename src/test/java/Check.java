@@ -1,7 +1,8 @@
 import java.util.function.Supplier;
 
-/** What the tests share: each wrong answer is printed, and finish() ends the run with exit code 1. */
+/** What the tests share: the first wrong answers are printed, and finish() ends the run with exit code 1. */
 final class Check {
+    private static final int MOST_TOLD = 50;
     private static int wrong = 0;
     private static int checks = 0;
 
@@ -12,8 +13,14 @@ final class Check {
         checks++;
         if (!want.equals(got)) {
             wrong++;
-            System.out.println(what + " answered " + got + ", due is " + want);
+            if (wrong <= MOST_TOLD) {
+                System.out.println(what + " answered " + got + ", due is " + want);
+            }
         }
+    }
+
+    static int count() {
+        return checks;
     }
 
     /** Everything that can be asked of the state, in one text. */
@@ -47,6 +54,16 @@ final class Check {
         }
         same(what + " throws", thrown, kind);
         same(what + " changed the state", state(x), before);
+    }
+
+    static void throwsNothing(String what, Runnable call) {
+        Object thrown = "nothing";
+        try {
+            call.run();
+        } catch (RuntimeException e) {
+            thrown = e.getClass();
+        }
+        same(what + " throws", thrown, "nothing");
     }
 
     /** REFUSED changes nothing but its count. */

@@ -42,11 +42,12 @@ public final class IrreducibleTest {
         Check.refused("a modulus of degree 13", x, () -> x.power(1, 0, 5, 5));
         Check.throwsArgument("-1 times", x, () -> x.power(1, -1, 1, 5));
         Check.throwsArgument("256 times, before the modulus is refused", x, () -> x.power(1, 256, 5, 5));
+        Carryfree y = Check.with(2, 0b10011);
         for (int no : NO_CELLS) {
-            Check.throwsIndex("power(" + no + ", 1, 1, 1)", x, () -> x.power(no, 1, 1, 1));
-            Check.throwsIndex("power(1, 1, " + no + ", 1)", x, () -> x.power(1, 1, no, 1));
-            Check.throwsIndex("power(1, 1, 1, " + no + ")", x, () -> x.power(1, 1, 1, no));
-            Check.throwsIndex("power(1, 256, 5, " + no + ")", x, () -> x.power(1, 256, 5, no));
+            Check.throwsIndex("power(" + no + ", 1, 1, 1)", y, () -> y.power(no, 1, 1, 1));
+            Check.throwsIndex("power(1, 1, " + no + ", 1)", y, () -> y.power(1, 1, no, 1));
+            Check.throwsIndex("power(1, 1, 1, " + no + ")", y, () -> y.power(1, 1, 1, no));
+            Check.throwsIndex("power(1, 256, 5, " + no + ")", y, () -> y.power(1, 256, 5, no));
         }
     }
 
@@ -65,14 +66,15 @@ public final class IrreducibleTest {
             Check.refused("behind the last one of " + d, x, () -> x.nth(d, HOW_MANY[d], 0));
             Check.refused("rank 40 of " + d, x, () -> x.nth(d, 40, 0));
         }
-        Check.throwsArgument("degree 0", x, () -> x.nth(0, 0, 0));
-        Check.throwsArgument("degree 9", x, () -> x.nth(9, 0, 0));
-        Check.throwsArgument("rank -1", x, () -> x.nth(8, -1, 0));
-        Check.throwsArgument("rank 41, though there are not so many", x, () -> x.nth(8, 41, 0));
+        Carryfree y = Check.with(5, 6);
+        Check.throwsArgument("degree 0", y, () -> y.nth(0, 0, 0));
+        Check.throwsArgument("degree 9", y, () -> y.nth(9, 0, 0));
+        Check.throwsArgument("rank -1", y, () -> y.nth(8, -1, 0));
+        Check.throwsArgument("rank 41, though there are not so many", y, () -> y.nth(8, 41, 0));
         for (int no : NO_CELLS) {
-            Check.throwsIndex("nth(8, 0, " + no + ")", x, () -> x.nth(8, 0, no));
-            Check.throwsIndex("nth(9, 41, " + no + ")", x, () -> x.nth(9, 41, no));
-            Check.throwsIndex("nth(8, 40, " + no + ")", x, () -> x.nth(8, 40, no));
+            Check.throwsIndex("nth(8, 0, " + no + ")", y, () -> y.nth(8, 0, no));
+            Check.throwsIndex("nth(9, 41, " + no + ")", y, () -> y.nth(9, 41, no));
+            Check.throwsIndex("nth(8, 40, " + no + ")", y, () -> y.nth(8, 40, no));
         }
     }
 
@@ -101,13 +103,14 @@ public final class IrreducibleTest {
         }
         Check.act("ZERO again", x, () -> x.again(1, 7, 5), 1, 5, "-");
         Check.act("into itself", x, () -> x.again(2, 36, 2), 0, 2, "5 1 0");
-        Check.throwsArgument("radix 1", x, () -> x.again(0, 1, 0));
-        Check.throwsArgument("radix 37", x, () -> x.again(0, 37, 0));
-        Check.throwsArgument("radix 0", x, () -> x.again(0, 0, 0));
+        Carryfree y = Check.with(35);
+        Check.throwsArgument("radix 1", y, () -> y.again(0, 1, 0));
+        Check.throwsArgument("radix 37", y, () -> y.again(0, 37, 0));
+        Check.throwsArgument("radix 0", y, () -> y.again(0, 0, 0));
         for (int no : NO_CELLS) {
-            Check.throwsIndex("again(" + no + ", 2, 0)", x, () -> x.again(no, 2, 0));
-            Check.throwsIndex("again(0, 2, " + no + ")", x, () -> x.again(0, 2, no));
-            Check.throwsIndex("again(0, 1, " + no + ")", x, () -> x.again(0, 1, no));
+            Check.throwsIndex("again(" + no + ", 2, 0)", y, () -> y.again(no, 2, 0));
+            Check.throwsIndex("again(0, 2, " + no + ")", y, () -> y.again(0, 2, no));
+            Check.throwsIndex("again(0, 1, " + no + ")", y, () -> y.again(0, 1, no));
         }
     }
 
