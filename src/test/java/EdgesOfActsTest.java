@@ -620,16 +620,19 @@ public final class EdgesOfActsTest {
         }).says("REFUSED, if the DEGREE of that other one is not 1 to 12.", () -> {
             for (int degree = 0; degree <= 32; degree++) {
                 int d = degree;
-                Carryfree x = Check.with(2, 1L << d, FULL & (2L << d) - 1);
+                Carryfree x = Check.with(2, 1L << d, FULL & (2L << d) - 1, 1L << d | 7);
                 if (d >= 1 && d <= 12) {
                     Check.act("X" + d, x, () -> x.power(0, d, 1, 5), 0, 5, "-");
                     Check.act("all to " + d, x, () -> x.power(0, d + 1, 2, 5), 1, 5, "0");
                 } else {
                     Check.refused("X" + d, x, () -> x.power(0, 3, 1, 5));
                     Check.refused("all to " + d + ", 0 times", x, () -> x.power(0, 0, 2, 5));
+                    if (d > 2) {
+                        Check.refused("X" + d + " and small ones", x, () -> x.power(0, 3, 3, 5));
+                    }
                 }
             }
-            Carryfree x = Check.with(2);
+            Carryfree x = Check.with(2, 0);
             Check.refused("ZERO", x, () -> x.power(0, 3, 1, 5));
             Check.refused("ZERO, 0 times", x, () -> x.power(0, 0, 1, 5));
         }).says(Edges.ANOTHER, () -> {

@@ -263,6 +263,8 @@ public final class EdgesOfAskedTest {
             Check.same("of X32", Check.with(TOP).isFree(0), false);
             Check.same("of X32 and X", Check.with(TOP + 2).isFree(0), true);
             Check.same("of X32 and X2", Check.with(TOP + 4).isFree(0), false);
+            // X by the square of (X15 and ONE).
+            Check.same("of X31 and X", Check.with(0x80000002L).isFree(0), false);
             // All to 32 divide X33 and ONE, which has no part twice.
             Check.same("of a full one", Check.with(FULL).isFree(0), true);
             Check.same("of the square of a part of degree 16", Check.with(0x155555555L).isFree(0), false);
@@ -277,13 +279,14 @@ public final class EdgesOfAskedTest {
             }
         }).says("REFUSED, if its DEGREE is above 12.", () -> {
             for (int degree = 0; degree <= 32; degree++) {
-                Carryfree x = Check.with(1L << degree, FULL & (2L << degree) - 1);
+                Carryfree x = Check.with(1L << degree, FULL & (2L << degree) - 1, 1L << degree | 7);
                 if (degree <= 12) {
                     Check.same("X" + degree, x.irreducible(0), degree == 1 ? 1 : 0);
                     Check.same("refusals", x.house(1), 0);
                 } else {
                     Check.refused("X" + degree, x, () -> x.irreducible(0));
                     Check.refused("all to " + degree, x, () -> x.irreducible(1));
+                    Check.refused("X" + degree + " and small ones", x, () -> x.irreducible(2));
                 }
             }
             Carryfree x = Check.with(8191, 8192);
@@ -305,9 +308,10 @@ public final class EdgesOfAskedTest {
             Check.same("of ZERO", new Carryfree().rank(0), -1);
         }).says("REFUSED, if its DEGREE is above 8.", () -> {
             for (int degree = 9; degree <= 32; degree++) {
-                Carryfree x = Check.with(1L << degree, FULL & (2L << degree) - 1);
+                Carryfree x = Check.with(1L << degree, FULL & (2L << degree) - 1, 1L << degree | 7);
                 Check.refused("X" + degree, x, () -> x.rank(0));
                 Check.refused("all to " + degree, x, () -> x.rank(1));
+                Check.refused("X" + degree + " and small ones", x, () -> x.rank(2));
             }
             Carryfree x = Check.with(511, 512, 529, 256);
             Check.same("the last one, of degree 8", x.rank(0), -1);
@@ -333,9 +337,10 @@ public final class EdgesOfAskedTest {
                 Check.same("refusals", x.house(1), 0);
             }).says("REFUSED, if it is ZERO, or of a DEGREE above 8.", () -> {
                 for (int degree = 9; degree <= 32; degree++) {
-                    Carryfree x = Check.with(1L << degree, FULL & (2L << degree) - 1);
+                    Carryfree x = Check.with(1L << degree, FULL & (2L << degree) - 1, 1L << degree | 7);
                     Check.refused("X" + degree, x, () -> x.factors(0));
                     Check.refused("all to " + degree, x, () -> x.factors(1));
+                    Check.refused("X" + degree + " and small ones", x, () -> x.factors(2));
                 }
                 Carryfree x = Check.with(0, 511, 512);
                 Check.refused("ZERO", x, () -> x.factors(0));
@@ -372,13 +377,17 @@ public final class EdgesOfAskedTest {
             Check.same("the greatest there is", greatest, 255);
         }).says("REFUSED, if its DEGREE is not 1 to 8, or it has 0 at the PLACE 0.", () -> {
             for (int degree = 0; degree <= 32; degree++) {
-                Carryfree x = Check.with(1L << degree, 1L << degree | 1, FULL - 1 & (2L << degree) - 1);
+                long top = 1L << degree;
+                Carryfree x = Check.with(top, top | 1, FULL - 1 & (2L << degree) - 1, top | 7);
                 Check.refused("X" + degree, x, () -> x.period(0));
                 Check.refused("all from 1 to " + degree, x, () -> x.period(2));
                 if (degree >= 1 && degree <= 8) {
                     Check.same("X" + degree + " and ONE", x.period(1), degree);
                 } else {
-                    Check.refused("with ONE, of degree " + degree, x, () -> x.period(1));
+                    Check.refused("X" + degree + " with 1 at the place 0", x, () -> x.period(1));
+                    if (degree > 8) {
+                        Check.refused("X" + degree + " and small ones", x, () -> x.period(3));
+                    }
                 }
             }
             Carryfree x = Check.with(0, 1, 513, 511);
@@ -481,6 +490,10 @@ public final class EdgesOfAskedTest {
                 x.copy(0, cell);
             }
             houseIs(x, 7, 3, 1, 0, 6 * 33);
+            x.mono(0, 32);
+            x.mono(1, 0);
+            x.put(2, 0);
+            houseIs(x, 10, 3, 1, 1, 2 + 3 * 33);
         }).says("Returns that.", () -> {
             Carryfree x = Check.with(0, 5);
             Check.same("cells with ZERO", x.house(3), 5);
