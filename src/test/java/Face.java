@@ -1,9 +1,5 @@
-import java.io.IOException;
-import java.io.UncheckedIOException;
 import java.lang.reflect.InvocationTargetException;
 import java.lang.reflect.Method;
-import java.nio.file.Files;
-import java.nio.file.Path;
 import java.util.ArrayList;
 import java.util.List;
 import java.util.regex.Matcher;
@@ -48,7 +44,7 @@ final class Face {
     static List<Face> all() {
         List<Face> all = new ArrayList<>();
         boolean isAct = true;
-        for (String line : document()) {
+        for (String line : Lines.ofDocument()) {
             Matcher told = SIGNATURE.matcher(line);
             if (told.matches()) {
                 // The second group begins with degree().
@@ -57,14 +53,6 @@ final class Face {
             }
         }
         return all;
-    }
-
-    private static List<String> document() {
-        try {
-            return Files.readAllLines(Path.of("../shared/DOC.md"));
-        } catch (IOException e) {
-            throw new UncheckedIOException(e);
-        }
     }
 
     int size() {

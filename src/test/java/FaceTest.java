@@ -2,8 +2,6 @@ import java.lang.reflect.Constructor;
 import java.lang.reflect.Field;
 import java.lang.reflect.Method;
 import java.lang.reflect.Modifier;
-import java.nio.file.Files;
-import java.nio.file.Path;
 import java.util.HashSet;
 import java.util.Set;
 import java.util.TreeSet;
@@ -13,7 +11,7 @@ public final class FaceTest {
     private FaceTest() {
     }
 
-    public static void main(String[] args) throws Exception {
+    public static void main(String[] args) {
         Set<String> due = faceOfDocument();
         Check.same("methods in the document", due.size(), 47);
         Set<String> got = new TreeSet<>();
@@ -66,9 +64,9 @@ public final class FaceTest {
         return all.toString();
     }
 
-    private static Set<String> faceOfDocument() throws Exception {
+    private static Set<String> faceOfDocument() {
         Set<String> all = new TreeSet<>();
-        for (String line : Files.readAllLines(Path.of("../shared/DOC.md"))) {
+        for (String line : Lines.ofDocument()) {
             if (line.startsWith("    public ") && !line.startsWith("    public Carryfree")) {
                 String told = line.trim().substring("public ".length()).replace(";", "");
                 String types = told.substring(told.indexOf('(') + 1, told.indexOf(')'));

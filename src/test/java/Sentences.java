@@ -1,7 +1,3 @@
-import java.io.IOException;
-import java.io.UncheckedIOException;
-import java.nio.file.Files;
-import java.nio.file.Path;
 import java.util.ArrayList;
 import java.util.List;
 
@@ -29,7 +25,7 @@ final class Sentences {
         String heading = "## Promise " + number + ": ";
         List<String> kept = new ArrayList<>();
         boolean isIn = false;
-        for (String line : document()) {
+        for (String line : Lines.ofDocument()) {
             if (line.startsWith("## ")) {
                 isIn = line.startsWith(heading);
             } else if (isIn && !line.startsWith("`") && !line.startsWith("====") && !line.matches(PLAIN)) {
@@ -43,7 +39,7 @@ final class Sentences {
     static Sentences ofDescription() {
         List<String> kept = new ArrayList<>();
         boolean isFace = false;
-        for (String line : document()) {
+        for (String line : Lines.ofDocument()) {
             if (line.startsWith("## Promise 1:")) {
                 break;
             }
@@ -54,14 +50,6 @@ final class Sentences {
             }
         }
         return new Sentences("the description", kept);
-    }
-
-    private static List<String> document() {
-        try {
-            return Files.readAllLines(Path.of("../shared/DOC.md"));
-        } catch (IOException e) {
-            throw new UncheckedIOException(e);
-        }
     }
 
     Sentences says(String sentence, Runnable test) {
